@@ -191,6 +191,7 @@ public final class PromiseTest {
         x.cut(2, 0);
         due("write(2, 0, 16, 3)", x.write(2, 0, 16, 3), 16);
         due("got: a rest of one", places(x, 2), "16: 2 3 4 20");
+        due("got: no more than that", x.many(0), 4);
         x.cut(2, 0);
         due("write(2, 1, 1, 3)", x.write(2, 1, 1, 3), 2);
         due("got: one", places(x, 2), "2: 20");
@@ -285,6 +286,9 @@ public final class PromiseTest {
         due("punch: both ends own", places(x, 1), "20: 5 . . . 6");
         due("punch: cells", cells(x, 1, 0, 4) + cells(x, 1, 16, 20), "[5, 5, 0, 0][0, 5, 5, 5]");
         due("punch: the other's", cells(x, 0, 0, 4) + cells(x, 0, 16, 20), "[5, 5, 5, 5][5, 5, 5, 5]");
+        due("punch: the other's between", cells(x, 0, 4, 8), "[5, 5, 5, 5]");
+        due("punch(1, 5, 2)", x.punch(1, 5, 2), 0);
+        due("punch: a part of a hole", places(x, 1), "20: 5 . . . 6");
         // Owned ahead of all else: what is punched is not free yet, and is shared still.
         CutFiles y = fullDisk();
         y.punch(0, 4, 4);
@@ -468,6 +472,9 @@ public final class PromiseTest {
         due("exchange: cells", cells(x, 0, 2, 6) + cells(x, 1, 2, 6), "[0, 0, 2, 2][1, 1, 1, 1]");
         due("exchange(0, 2, 1, 0, 1)", x.exchange(0, 2, 1, 0, 1), 1);
         due("exchange: other places", places(x, 0) + " - " + places(x, 1), "14: . 4 0 3 - 13: 5 1 2 6");
+        x.write(3, 0, 4, 8);
+        due("exchange(3, 0, 1, 1, 1)", x.exchange(3, 0, 1, 1, 1), 1);
+        due("exchange: other files", places(x, 3) + " - " + places(x, 1), "4: 1 - 13: 5 7 2 6");
         String before = all(x);
         due("exchange(0, 0, 1, 0, 4)", x.exchange(0, 0, 1, 0, 4), STATE);
         due("exchange(0, 3, 1, 0, 1)", x.exchange(0, 3, 1, 0, 1), STATE);
@@ -574,6 +581,10 @@ public final class PromiseTest {
         due("ofFile(0, 2)", x.ofFile(0, 2), 2);
         due("ofFile(0, 3)", x.ofFile(0, 3), 3);
         due("ofFile(1, 2)", x.ofFile(1, 2), 1);
+        x.cut(1, 0);
+        due("ofFile: shared by two", x.ofFile(0, 2), 2);
+        x.cut(0, 19);
+        due("ofFile: shared no more", x.ofFile(0, 2), 0);
         due("ofFile(2, 0)", x.ofFile(2, 0), 0);
         due("ofFile(3, 1)", x.ofFile(3, 1), 0);
         due("ofFile(0, 4)", x.ofFile(0, 4), OUTSIDE);
@@ -708,6 +719,7 @@ public final class PromiseTest {
         due("many(LOW)", x.many(LOW), OUTSIDE);
         CutFiles y = fullDisk();
         due("many: no run", y.many(0) + " " + y.many(2) + " " + y.many(3), "0 0 1");
+        due("range: no run", y.range(0, 0) + " " + y.range(0, 1), "-9 -9");
         CutFiles z = new CutFiles();
         due("many: no band", z.many(0) + " " + z.many(2) + " " + z.many(3), "48 1 0");
     }
