@@ -9,6 +9,10 @@ final class Calls {
     private static final String[] NAMES = {"read", "write", "cut", "punch", "collapse", "insert", "share", "unshare",
         "failure", "exchange", "mount", "ofFile", "block", "piece", "seek", "count", "range", "many"};
     private static final int[] ARGUMENTS = {2, 4, 2, 3, 3, 3, 5, 3, 1, 5, 1, 2, 2, 3, 3, 1, 2, 1};
+    /** What each call may answer below 0, as its line of the document tells. */
+    static final int[][] TOLD = {{-1, -2}, {-1, -2, -3, -6}, {-1, -2, -3, -6}, {-1, -2, -3, -6}, {-1, -2, -3},
+        {-1, -2, -3, -4}, {-1, -2, -3}, {-1, -2, -3, -6}, {-2, -3, -9}, {-1, -2, -3}, {-3}, {-1, -2}, {-1, -2, -9},
+        {-1, -2, -9}, {-1, -2, -9}, {-2}, {-2, -9}, {-2}};
     private static final int MOUNT = 10;
     private static final int SEEK = 14;
 
@@ -22,6 +26,10 @@ final class Calls {
             }
         }
         throw new IllegalArgumentException("there is no call " + name);
+    }
+
+    static String name(int kind) {
+        return NAMES[kind];
     }
 
     static int[] call(String name, int... arguments) {

@@ -154,7 +154,7 @@ public final class EdgesOfTermsTest {
     }
 
     private static void gotFromSeveralRuns() {
-        Script.test("Terms 1: GOT: if no RUN has n: all of the RUN with the most, of several the first, then the others",
+        Script.test("Terms 1: GOT: if no RUN has n: all of the RUN with the most (of several the first), then others",
             FULL_DISK, "punch 0 8 8 = 2; punch 0 24 8 = 2; punch 0 40 4 = 1",
             "write 2 0 12 3 = 12; places 2 = 12: 2 3 10; write 2 12 8 4 = 20; places 2 = 20: 2 3 10 6 7; many 0 = 0");
         Script.test("Terms 1: GOT: the others likewise: the fewest that suffice, not the most",
@@ -236,7 +236,7 @@ public final class EdgesOfTermsTest {
             "write 0 0 10 1 = 10; write 0 9 2 3 = 11; cells 0 = 1*9 3*2; write 0 11 1 4 = 12; cells 0 = 1*9 3*2 4");
         Script.test("Terms 2: WRITING behind SIZE: what is between is 0, and HOLES",
             "write 0 0 2 1 = 2; write 0 13 2 3 = 15; places 0 = 15: 0 . . 1; cells 0 = 1*2 0*11 3*2");
-        Script.test("Terms 2: WRITING: CELLS ahead of at and behind at and n stay, also in its own first and last PLACE",
+        Script.test("Terms 2: WRITING: CELLS ahead of at and behind at and n stay, also in its first and last PLACE",
             "write 0 0 16 1 = 16; write 0 3 6 2 = 16; cells 0 = 1*3 2*6 1*7");
         Script.test("Terms 2: WRITING: just the PLACES of these CELLS are OWNED",
             "write 0 0 16 1; share 0 0 1 0 4; write 1 4 8 2 = 16; places 1 = 16: 0 4 5 3; write 1 3 1 2 = 16",

@@ -2,10 +2,14 @@ import java.lang.reflect.Constructor;
 import java.lang.reflect.Field;
 import java.lang.reflect.Method;
 import java.lang.reflect.Modifier;
+import java.nio.file.Files;
+import java.nio.file.Path;
+import java.util.ArrayList;
 import java.util.Arrays;
+import java.util.List;
 import java.util.TreeSet;
 
-/** The public face is the document's, and nothing else can be seen from outside. */
+/** The public face is the document's, word for word, and nothing else can be seen from outside. */
 public final class FaceTest {
     private static final String[] METHODS = {
         "block(int,int)", "collapse(int,int,int)", "count(int)", "cut(int,int)", "exchange(int,int,int,int,int)",
@@ -33,10 +37,45 @@ public final class FaceTest {
         due("constructors", made.length, 1);
         due("the constructor's arguments", made[0].getParameterCount(), 0);
         due("the constructor's modifiers", made[0].getModifiers(), Modifier.PUBLIC);
+        due("what the class is made from", CutFiles.class.getSuperclass(), Object.class);
+        due("interfaces", CutFiles.class.getInterfaces().length, 0);
+        due("the package", CutFiles.class.getPackageName(), "");
+        innerClasses();
+        due("the face as it is written", written(), inClass(Document.face()));
         System.out.println(wrong == 0 ? "the face is as due" : wrong + " parts of the face are not as due");
         if (wrong != 0) {
             System.exit(1);
         }
+    }
+
+    private static void innerClasses() {
+        for (Class<?> inner : CutFiles.class.getDeclaredClasses()) {
+            int modifiers = inner.getModifiers();
+            due(inner.getName() + " is static", Modifier.isStatic(modifiers), true);
+            due(inner.getName() + " is seen from outside",
+                    Modifier.isPublic(modifiers) || Modifier.isProtected(modifiers), false);
+        }
+    }
+
+    /** The lines of the source that are public, and those that head a chapter of the interface. */
+    private static List<String> written() throws Exception {
+        List<String> lines = new ArrayList<>();
+        for (String line : Files.readAllLines(Path.of("src", "main", "java", "CutFiles.java"))) {
+            String words = line.trim();
+            if (words.startsWith("public ") || words.startsWith("// ----")) {
+                lines.add(words);
+            }
+        }
+        return lines;
+    }
+
+    /** In the class a body begins where the document's line of a call ends. */
+    private static List<String> inClass(List<String> face) {
+        List<String> lines = new ArrayList<>();
+        for (String line : face) {
+            lines.add(line.endsWith(");") ? line.substring(0, line.length() - 1) + " {" : line);
+        }
+        return lines;
     }
 
     private static TreeSet<String> methods() {
@@ -53,6 +92,7 @@ public final class FaceTest {
                 open.add(m.getName() + "(" + types + ")");
                 due("what " + m.getName() + " answers", m.getReturnType(), int.class);
                 due("modifiers of " + m.getName(), m.getModifiers(), Modifier.PUBLIC);
+                due("what " + m.getName() + " throws", m.getExceptionTypes().length, 0);
             }
         }
         for (String m : METHODS) {

@@ -1,101 +1,55 @@
 import java.util.ArrayList;
 import java.util.List;
-import java.util.Random;
 import java.util.TreeSet;
 
 /**
- * Runs of calls from fixed seeds, each answered by the class and by a second program that holds the same things
- * otherwise: blocks are objects that places point to, counts are looked up each time, refusals are exceptions.
+ * Runs of 512 calls from fixed seeds, each call answered by the class and by a second program that holds the same
+ * things otherwise: blocks are objects that places point to, counts are looked up each time, refusals are exceptions.
  */
 public final class ModelTest {
-    private static final int RUNS = 500;
+    private static final int RUNS = 600;
     private static final int COMPARED_EACH = 100;
+    /** How often all runs together must have got each answer that a call's line tells. */
+    private static final int OFTEN = 100;
     private static final int[][] EVERYTHING = Calls.everything();
-    private static final int[] WILD = {Integer.MIN_VALUE, -10, -9, -1, 0, 1, 4, 23, 24, 25, 47, 48, 95, 96, 97, 256,
-        Integer.MAX_VALUE - 1, Integer.MAX_VALUE};
 
     public static void main(String[] args) {
-        int[] refused = new int[10];
-        for (int run = 0; run < RUNS; run++) {
-            String fault = run(run, refused);
+        Answers answers = new Answers();
+        for (int seed = 0; seed < RUNS; seed++) {
+            String fault = run(seed, answers);
             if (fault != null) {
                 System.out.println(fault);
                 System.exit(1);
             }
         }
-        for (int answer : new int[] {1, 2, 3, 4, 6, 9}) {
-            if (refused[answer] == 0) {
-                System.out.println("no run was answered " + -answer);
-                System.exit(1);
-            }
+        String fault = answers.fault(OFTEN);
+        if (fault != null) {
+            System.out.println(fault);
+            System.exit(1);
         }
         System.out.println(RUNS + " runs agree");
     }
 
-    private static String run(int seed, int[] refused) {
-        Random chance = new Random(seed);
+    private static String run(int seed, Answers answers) {
         CutFiles x = new CutFiles();
         Model model = new Model();
         List<int[]> calls = new ArrayList<>();
         StringBuilder told = new StringBuilder();
-        for (int i = 0; i < Calls.MOST; i++) {
-            int[] call = call(chance, seed % 3);
+        for (int[] call : Chance.run(seed)) {
             int want = model.answer(call);
             int got = Calls.answer(x, call);
             calls.add(call);
+            answers.add(call, want);
             told.append(Calls.text(call)).append(" = ").append(want).append('\n');
             if (got != want) {
                 return told + "seed " + seed + ": the class answered " + got;
             }
-            if (want < 0 && want > -10) {
-                refused[-want]++;
-            }
-            String fault = (i + 1) % COMPARED_EACH == 0 ? compareAll(calls, model) : null;
+            String fault = calls.size() % COMPARED_EACH == 0 ? compareAll(calls, model) : null;
             if (fault != null) {
                 return told + "seed " + seed + ": " + fault;
             }
         }
         return null;
-    }
-
-    /** Of three kinds of runs one cuts, punches and collapses but little: its disk is soon full. */
-    private static int[] call(Random chance, int mode) {
-        int kind = chance.nextInt(18);
-        int[] c = {kind, 0, 0, 0, 0, 0};
-        int f = chance.nextInt(4);
-        int at = chance.nextInt(96);
-        int p = chance.nextInt(24);
-        int q = chance.nextInt(24);
-        boolean full = mode == 2;
-        int cells = 1 + chance.nextInt(mode == 0 ? Math.min(12, 96 - at) : 96 - at);
-        int places = 1 + chance.nextInt(mode == 0 ? Math.min(3, 24 - p) : 24 - p);
-        int both = 1 + chance.nextInt(24 - Math.max(p, q));
-        switch (kind) {
-            case 1 -> set(c, f, at, cells, chance.nextInt(256));
-            case 2 -> set(c, f, full ? 70 + chance.nextInt(27) : chance.nextInt(97));
-            case 3 -> set(c, f, at, full ? Math.min(cells, 7) : cells);
-            case 4 -> set(c, f, p, full ? 1 : places);
-            case 5 -> set(c, f, p, 1 + chance.nextInt(4));
-            case 6, 9 -> set(c, f, p, chance.nextInt(4), q, both);
-            case 7 -> set(c, f, p, places);
-            case 8 -> set(c, chance.nextInt(3) == 0 ? -9 : chance.nextInt(9));
-            case 10 -> set(c, chance.nextInt(2));
-            case 11 -> set(c, f, chance.nextInt(4));
-            case 13 -> set(c, f, chance.nextInt(6), chance.nextInt(3));
-            case 14 -> set(c, f, chance.nextInt(97), chance.nextInt(2));
-            case 15 -> set(c, chance.nextInt(48));
-            case 16 -> set(c, chance.nextInt(8), chance.nextInt(5));
-            case 17 -> set(c, chance.nextInt(6));
-            default -> set(c, f, kind == 0 ? at : p);
-        }
-        if (chance.nextInt(12) == 0) {
-            c[1 + chance.nextInt(5)] = WILD[chance.nextInt(WILD.length)];
-        }
-        return c;
-    }
-
-    private static void set(int[] call, int... arguments) {
-        System.arraycopy(arguments, 0, call, 1, arguments.length);
     }
 
     /** Everything is asked of copies, made by the same calls: the object itself goes on with its own 512 calls. */
@@ -108,6 +62,33 @@ public final class ModelTest {
             }
         }
         return null;
+    }
+
+    /** How often each call was answered what: only what its line of the document tells, and each of that often. */
+    private static final class Answers {
+        private static final int BELOW_ALL = 10;
+        private final int[][] seen = new int[Calls.TOLD.length][BELOW_ALL + 1];
+
+        private void add(int[] call, int answer) {
+            seen[call[0]][answer >= 0 ? 0 : Math.min(BELOW_ALL, -answer)]++;
+        }
+
+        private String fault(int often) {
+            for (int kind = 0; kind < seen.length; kind++) {
+                TreeSet<Integer> told = new TreeSet<>();
+                told.add(0);
+                for (int answer : Calls.TOLD[kind]) {
+                    told.add(-answer);
+                }
+                for (int below = 0; below <= BELOW_ALL; below++) {
+                    if (told.contains(below) ? seen[kind][below] < often : seen[kind][below] > 0) {
+                        return Calls.name(kind) + " was answered " + (below == 0 ? "a number" : -below) + " "
+                            + seen[kind][below] + " times";
+                    }
+                }
+            }
+            return null;
+        }
     }
 
     private static final class Refusal extends RuntimeException {
